@@ -73,6 +73,7 @@ public final class KeepTest {
         Check.due("found ahead of fitting", 0, x.judge(16));
         Check.due("found are so, one does not fit", 101, x.judge(2 + 32));
         Check.due("all is so", -9, x.judge(1 + 2 + 32));
+        Check.due("sign 0 does not fit", 100, Check.landOf("r01;f;s0f00;").judge(1));
         Check.due("judge(-1)", -1, x.judge(-1));
         Check.due("judge(4)", -1, x.judge(4));
         Check.due("judge(128)", -1, x.judge(128));
@@ -141,6 +142,12 @@ public final class KeepTest {
         Check.due("judge(17)", 1, x.judge(17));
         Check.due("judge(0)", 0, x.judge(0));
         Check.due("proof()", 3, x.proof());
+        x.forget();
+        x.forget();
+        x.way(0, 0);
+        x.way(0, 0);
+        Check.due("on() from other found things", 2, x.on());
+        Check.due("judge(17)", 1, x.judge(17));
         x.row(0);
         Check.due("on()", 2, x.on());
         Check.due("the row has none", 0, x.count(7));

@@ -197,6 +197,11 @@ public final class LandTest {
             Check.due("faults are no refusals: count(" + what + ")", 0, x.count(what));
         }
         Check.due("shown(0)", 0, x.shown(0));
+        // Nothing of the faulty texts is there for the next one either.
+        Check.due("land() behind faults", -2000, Check.tell(x, "l01;"));
+        Check.due("land() behind faults", 3, Check.tell(x, "r12;f;l01;"));
+        Check.due("count(1)", 2, x.count(1));
+        Check.due("count(3)", 1, x.count(3));
     }
 
     private static void roads() {

@@ -42,6 +42,12 @@ public final class SignTest {
         x.fact(0, 1);
         Check.due("none is good: all", 3, x.joking(0));
         Check.due("one joker", 1, x.joking(1));
+        // The least and the greatest world are looked at, too.
+        x = Check.landOf("r01;f;f;s0f00;s0f10;");
+        x.way(0, 1);
+        x.way(1, 1);
+        Check.due("all is so", 3, x.joking(0));
+        Check.due("all but one", 0, x.joking(1));
         // Signs that are jokers already are not counted.
         x = Check.landOf("r01;f;s0j00;s0j00;s0f00;");
         x.way(2, 1);
