@@ -2,15 +2,25 @@
 final class Check {
     private static int wrong = 0;
     private static int made = 0;
+    private static String now = "";
 
     private Check() {
+    }
+
+    /** What is looked at from here on, told with each wrong answer. */
+    static void now(String what) {
+        now = "[" + what + "] ";
+    }
+
+    static int made() {
+        return made;
     }
 
     static void due(String call, int want, int got) {
         made++;
         if (got != want) {
             wrong++;
-            System.out.println(call + " answered " + got + ", due is " + want);
+            System.out.println(now + call + " answered " + got + ", due is " + want);
         }
     }
 

@@ -26,19 +26,19 @@ public final class KeepTest {
     }
 
     private static void draws() {
-        TrueOneWay x = Check.landOf("r01;f;f;s0a01;s0j00;");
         int mask = 3 + 16 * 3;
-        x.fact(0, 1);
-        boolean[] fitting = new boolean[1024];
-        boolean[] good = new boolean[1024];
-        for (int world = 0; world < 1024; world++) {
-            if ((world & ~mask) == 0) {
-                fitting[world] = x.fits(world) == 1;
-                good[world] = fitting[world] && world % 2 == 1;
-            }
-        }
         int[] seeds = {0, 1, -1, 5, 12345, -987654321, Integer.MAX_VALUE, Integer.MIN_VALUE};
         for (int z : seeds) {
+            TrueOneWay x = Check.landOf("r01;f;f;s0a01;s0j00;");
+            x.fact(0, 1);
+            boolean[] fitting = new boolean[1024];
+            boolean[] good = new boolean[1024];
+            for (int world = 0; world < 1024; world++) {
+                if ((world & ~mask) == 0) {
+                    fitting[world] = x.fits(world) == 1;
+                    good[world] = fitting[world] && world % 2 == 1;
+                }
+            }
             for (int n = 1; n <= 30; n++) {
                 Check.due("lands(" + n + ", " + z + ", 0)", drawn(n, z, mask, fitting), x.lands(n, z, 0));
                 Check.due("lands(" + n + ", " + z + ", 1)", drawn(n, z, mask, good), x.lands(n, z, 1));

@@ -3,7 +3,8 @@ import java.util.Random;
 /** All promises: runs of calls by fixed seeds, each answer compared with that of the plain Oracle. */
 public final class OracleTest {
     private static final int RUNS = 1500;
-    private static final int CALLS = 500;
+    /** What begins below this ends below 512, as nothing is promised of later calls. */
+    private static final int CALLS = 440;
 
     private final Random random;
     private final TrueOneWay x = new TrueOneWay();
@@ -118,8 +119,8 @@ public final class OracleTest {
 
     private String richMore() {
         StringBuilder text = new StringBuilder();
-        int places = x.count(0);
-        int facts = Math.max(1, x.count(2));
+        int places = o.count(0);
+        int facts = Math.max(1, o.count(2));
         int a = upTo(places);
         int b = (a + 1 + upTo(places - 1)) % places;
         text.append('i').append(a).append(b).append(upTo(facts)).append(';');
@@ -141,12 +142,12 @@ public final class OracleTest {
             } else if (die < 5) {
                 text.append('f');
             } else if (die < 8) {
-                text.append('s').append(digit(x.count(1) + 1)).append("fnaoxwj".charAt(upTo(7)));
-                text.append(digit(x.count(2) + 1)).append(digit(x.count(2) + 1));
+                text.append('s').append(digit(o.count(1) + 1)).append("fnaoxwj".charAt(upTo(7)));
+                text.append(digit(o.count(2) + 1)).append(digit(o.count(2) + 1));
             } else if (die < 10) {
-                text.append('l').append(digit(x.count(0) + 1)).append(digit(x.count(2) + 1));
+                text.append('l').append(digit(o.count(0) + 1)).append(digit(o.count(2) + 1));
             } else {
-                text.append('i').append(digit(x.count(0))).append(digit(x.count(0))).append(digit(x.count(2)));
+                text.append('i').append(digit(o.count(0))).append(digit(o.count(0))).append(digit(o.count(2)));
             }
             text.append(';');
         }
@@ -173,23 +174,22 @@ public final class OracleTest {
 
     /** A row that was likely read on roads: all signs of some, one way or the other. */
     private void readRow() {
-        int roads = x.count(1);
+        int roads = o.count(1);
         if (roads == 0) {
             return;
         }
-        int place = upTo(x.count(0));
+        int place = upTo(o.count(0));
         for (int i = 0; i < 5; i++) {
             int road = upTo(roads);
-            boolean there = x.road(road, 0) == place || x.road(road, 1) == place;
-            o.road(road, 0);
+            boolean there = o.road(road, 0) == place || o.road(road, 1) == place;
             if (!there && upTo(8) > 0) {
                 continue;
             }
-            boolean forward = x.road(road, 0) == place;
-            place = x.road(road, forward ? 1 : 0);
+            boolean forward = o.road(road, 0) == place;
+            place = o.road(road, forward ? 1 : 0);
             for (int j = 0; j < 6; j++) {
                 int sign = forward ? j : 5 - j;
-                if ((x.road(road, 2) >> sign & 1) == 1) {
+                if ((o.road(road, 2) >> sign & 1) == 1) {
                     due("row(" + sign + ")", o.row(sign), x.row(sign));
                 }
             }
