@@ -28,6 +28,7 @@ public final class FaceTest {
         members();
         namesInside();
         words();
+        methodsAreShort();
         Check.end("FaceTest");
     }
 
@@ -111,5 +112,34 @@ public final class FaceTest {
             Check.isTrue("without the word " + word, !m.find());
         }
         Check.isTrue("no lambda and no method reference", !code.contains("->") && !code.contains("::"));
+        Matcher library = Pattern.compile("\\b(Math|Integer|Long|System|Arrays|String)\\.(\\w+)").matcher(code);
+        Set<String> used = new TreeSet<>();
+        while (library.find()) {
+            used.add(library.group());
+        }
+        used.removeAll(Set.of("Math.max", "Math.min", "Integer.bitCount", "System.arraycopy"));
+        Check.isTrue("no more of the library: " + used, used.isEmpty());
+        // Objects and rows are made with the object alone, never by a call.
+        for (String line : code.split("\n")) {
+            boolean field = line.trim().matches("(private )?(static )?final .* = new .*");
+            Check.isTrue("nothing is made in: " + line.trim(), field || !line.matches(".*\\bnew\\b.*"));
+        }
+    }
+
+    private static void methodsAreShort() throws Exception {
+        String[] lines = Files.readString(Path.of(SOURCE)).split("\n");
+        int methods = 0;
+        for (int i = 0; i < lines.length; i++) {
+            String indent = lines[i].replaceAll("\\S.*", "");
+            boolean method = lines[i].matches("( {4}| {8})(?!if|for|while|switch|else)[a-zA-Z].*\\) \\{");
+            for (int j = i; method && j < lines.length; j++) {
+                if (lines[j].equals(indent + "}")) {
+                    Check.isTrue("some sixty lines at most: " + lines[i].trim(), j - i < 60);
+                    methods++;
+                    break;
+                }
+            }
+        }
+        Check.isTrue("methods looked at: " + methods, methods > FACE.length + 40);
     }
 }

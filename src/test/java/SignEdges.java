@@ -266,7 +266,8 @@ final class SignEdges {
         for (int signs = 0; signs < 4; signs++) {
             Twins.unchanged(SignEdges::small, want[signs], "together", signs);
         }
-        for (int signs : new int[] {4, 5, 7, 8, 64, -1, -4, Integer.MIN_VALUE, Integer.MIN_VALUE + 1, Integer.MAX_VALUE}) {
+        for (int signs : new int[] {4, 5, 7, 8, 64, -1, -4, Integer.MIN_VALUE, Integer.MIN_VALUE + 1,
+            Integer.MAX_VALUE}) {
             Twins.refused(SignEdges::small, -1, "together", signs);
         }
         for (int signs = 0; signs <= 6; signs++) {

@@ -69,7 +69,7 @@ final class Twins {
         list.add(name(name, args) + " = " + call(x, name, args));
     }
 
-    /** What an object answers; the row, the letters, what is found and the image are spent. It stays below 512 calls. */
+    /** What an object answers; its row, letters, found things and image are spent. It stays below 512 calls. */
     private static List<String> told(TrueOneWay x) {
         List<String> list = new ArrayList<>();
         land(list, x);

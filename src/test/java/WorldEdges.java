@@ -503,7 +503,7 @@ final class WorldEdges {
         }
     }
 
-    /** In the one land there are one fact and one sign; the wrong thing is told ahead of the wrong is, that of no room. */
+    /** There are one fact and one sign; no such thing is told ahead of a wrong is, this ahead of no room. */
     private static void findRefuses(String name) {
         int[] nobody = {-1, 1, 2, 6, 32, Integer.MIN_VALUE, Integer.MAX_VALUE};
         int[] other = {-1, 2, 3, Integer.MIN_VALUE, Integer.MAX_VALUE};
